@@ -993,8 +993,12 @@ public final class TurnedHeadings {
             boolean read;
             if (isKey(LAW)) read = readLaw(book);
             else if (isKey(SEE)) read = readSee(book);
-            else if (isKey(STRING)) read = readString(book);
-            else read = fail(1);
+            else if (!isKey(STRING)) read = fail(1);
+            else if (book.size >= STRINGS) read = fail(4);
+            else {
+                step();
+                read = readHeading(book);
+            }
             return read && takeSign(';');
         }
 
@@ -1026,12 +1030,6 @@ public final class TurnedHeadings {
             book.addSee(from, to);
             step();
             return true;
-        }
-
-        private boolean readString(Book book) {
-            if (book.size >= STRINGS) return fail(4);
-            step();
-            return readHeading(book);
         }
 
         private boolean readHeading(Book book) {
@@ -1328,7 +1326,7 @@ public final class TurnedHeadings {
         }
 
         int compareWords(Entry other) {
-            if (lead != other.lead) return Integer.compare(lead, other.lead);
+            if (lead != other.lead) return lead - other.lead;
             int order = compareRows(other, 0, above, other.above);
             // Rows ABOVE that are the same have one length, so both BELOW begin at one place.
             return order != 0 ? order : compareRows(other, above, size, other.size);
@@ -1336,15 +1334,15 @@ public final class TurnedHeadings {
 
         private int compareRows(Entry other, int first, int behind, int otherBehind) {
             for (int i = first; i < behind && i < otherBehind; i++) {
-                if (words[i] != other.words[i]) return Integer.compare(words[i], other.words[i]);
+                if (words[i] != other.words[i]) return words[i] - other.words[i];
             }
-            return Integer.compare(behind, otherBehind);
+            return behind - otherBehind;
         }
 
         int compare(Entry other) {
             int order = compareWords(other);
-            if (order == 0) order = Integer.compare(address, other.address);
-            return order != 0 ? order : Integer.compare(place, other.place);
+            if (order == 0) order = address - other.address;
+            return order != 0 ? order : place - other.place;
         }
 
         boolean shows(int word, int what) {

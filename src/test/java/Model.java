@@ -13,7 +13,7 @@ import java.util.TreeMap;
 import java.util.TreeSet;
 import java.util.function.IntPredicate;
 
-/** The document once more, told plainly with the Java library and worked out anew at every call. */
+/** The document once more, told plainly with the Java library and worked out anew for every state. */
 final class Model {
     static final List<String> ROLES = List.of("place", "thing", "part", "act", "agent", "form");
     static final List<String> WAYS = List.of("plain", "whole", "near");
@@ -142,10 +142,37 @@ final class Model {
         return noString(s) || i < 0 || i >= terms(s).size();
     }
 
-    List<String> wordList() {
+    // A state never changes once it is the one of now, so what follows from it is kept as long as it is.
+    private State worked = null;
+    private List<String> workedWords;
+    private List<Entry> workedEntries;
+    private List<List<Entry>> workedLines;
+
+    private void work() {
+        if (worked == now) return;
+        worked = now;
         TreeSet<String> all = new TreeSet<>();
         for (int s = 0; s < now.strings.size(); s++) all.addAll(wordSet(s));
-        return new ArrayList<>(all);
+        workedWords = new ArrayList<>(all);
+        workedEntries = sortedEntries();
+        Map<List<List<String>>, List<Entry>> lines = new LinkedHashMap<>();
+        for (Entry e : workedEntries) lines.computeIfAbsent(e.shape(), x -> new ArrayList<>()).add(e);
+        workedLines = new ArrayList<>(lines.values());
+    }
+
+    List<String> wordList() {
+        work();
+        return workedWords;
+    }
+
+    List<Entry> entries() {
+        work();
+        return workedEntries;
+    }
+
+    List<List<Entry>> lines() {
+        work();
+        return workedLines;
     }
 
     Set<String> wordSet(int s) {
@@ -166,7 +193,7 @@ final class Model {
         return a.size() - b.size();
     }
 
-    List<Entry> entries() {
+    private List<Entry> sortedEntries() {
         List<Entry> all = new ArrayList<>();
         for (int s = 0; s < now.strings.size(); s++) {
             for (int i = 0; i < terms(s).size(); i++) {
@@ -179,12 +206,6 @@ final class Model {
         order = order.thenComparing(Entry::address).thenComparing(e -> e.place);
         all.sort(order);
         return all;
-    }
-
-    List<List<Entry>> lines() {
-        Map<List<List<String>>, List<Entry>> all = new LinkedHashMap<>();
-        for (Entry e : entries()) all.computeIfAbsent(e.shape(), x -> new ArrayList<>()).add(e);
-        return new ArrayList<>(all.values());
     }
 
     List<String> heads() {
