@@ -1,0 +1,12 @@
+import java.nio.file.Path;
+
+/** Every sentence of the document that names a boundary case, by tests that quote it. */
+public final class EdgeTest {
+    public static void main(String[] args) throws Exception {
+        Edge.readDocument(Path.of("../shared/DOC.md"));
+        EdgesOfTerms.all();
+        EdgesOfPromises.all();
+        Edge.needAllQuoted();
+        if (!Edge.allDue()) System.exit(1);
+    }
+}
