@@ -33,6 +33,24 @@ final class Edge {
     private static final Map<String, boolean[]> QUOTED = new HashMap<>();
     private static int wrong = 0;
     private static int edges = 0;
+    /** Whether objects have had another TEXT, as full as can be, ahead of a test's own: nothing of it may come through. */
+    static boolean worn = false;
+
+    private static final String FULLEST = fullest();
+
+    /** A law for each ROLE, 12 sees, 12 STRINGS of 6 TERMS, some with joins. */
+    private static String fullest() {
+        StringBuilder text = new StringBuilder();
+        String[] roles = {"place", "thing", "part", "act", "agent", "form"};
+        for (int i = 0; i < 6; i++) text.append("law ").append(roles[i]).append(i % 2 == 0 ? " whole;" : " near;");
+        for (char c = 'a'; c < 'm'; c++) text.append("see ").append(c).append(" ").append((char) (c + 1)).append(";");
+        for (int s = 0; s < 12; s++) {
+            text.append("string ").append(s).append(":place a via b back c");
+            for (int i = 1; i < 6; i++) text.append(",").append(s == 0 && i == 5 ? "form" : "act").append(" z").append((char) ('a' + s + i));
+            text.append(";");
+        }
+        return text.toString();
+    }
 
     private record Call(String name, int[] arguments) {
         @Override public String toString() {
@@ -163,12 +181,19 @@ final class Edge {
     }
 
     Edge text(String text) {
+        wear();
         say(text);
         if (make("text") < 0) tell("a FAULT " + make("fault", 0) + " at " + make("fault", 1) + " in " + text);
         return this;
     }
 
+    private void wear() {
+        if (!worn || !run.isEmpty()) return;
+        say(FULLEST).is(30, "text");
+    }
+
     Edge fine(int lines, String text) {
+        wear();
         return say(text).is(lines, "text").is(0, "fault", 0).is(NONE, "fault", 1).is(0, "count", 8);
     }
 

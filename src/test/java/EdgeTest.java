@@ -4,8 +4,11 @@ import java.nio.file.Path;
 public final class EdgeTest {
     public static void main(String[] args) throws Exception {
         Edge.readDocument(Path.of("../shared/DOC.md"));
-        EdgesOfTerms.all();
-        EdgesOfPromises.all();
+        for (boolean worn : new boolean[] {false, true}) {
+            Edge.worn = worn;
+            EdgesOfTerms.all();
+            EdgesOfPromises.all();
+        }
         Edge.needAllQuoted();
         if (!Edge.allDue()) System.exit(1);
     }

@@ -460,6 +460,10 @@ final class EdgesOfPromises {
         promise(25, quote).text("string 1:act a,act b;string 2:not act a via x,act b;string 3:act b,act a;string 4:act a,act b,act b;string 5:act a,form b;"
             + "string 6:act a;string 7:act a,act b,act c;").is(2, "alike", 0, 1).is(1, "alike", 0, 2).is(1, "alike", 0, 3).is(1, "alike", 3, 0)
             .is(0, "alike", 0, 4).is(0, "alike", 0, 5).is(0, "alike", 5, 0).is(0, "alike", 0, 6).is(0, "alike", 6, 0);
+        // One TERM differs, the first, a middle one, the last one, in its word or in its ROLE.
+        promise(25, quote).text("string 1:part a,act b,act c;string 2:part d,act b,act c;string 3:part a,act d,act c;string 4:part a,act b,act d;"
+            + "string 5:thing a,act b,act c;string 6:part a,part b,act c;string 7:part a,act b,agent c;string 8:part a,not act b back x,act c;")
+            .is(0, "alike", 0, 1).is(0, "alike", 0, 2).is(0, "alike", 0, 3).is(0, "alike", 0, 4).is(0, "alike", 0, 5).is(0, "alike", 0, 6).is(2, "alike", 0, 7);
         promise(25, quote).text(full()).bounds(0, 0, 11, -2, -2, "alike", 0, 0).bounds(1, 0, 11, -2, -2, "alike", 0, 0);
     }
 
@@ -503,6 +507,8 @@ final class EdgesOfPromises {
             .is(NONE, "beside", 4, 0, 0).is(NONE, "beside", 4, 1, MAX).is(-2, "beside", 4, 0, -2)
             // The first TERM has none ahead, the last none behind: STRINGS don't go over into one another.
             .is(0, "beside", 3, 0, -1).is(1, "beside", 2, 0, -1).is(0, "beside", 2, 1, -1);
+        promise(29, quote).text(full()).bounds(0, 0, 71, -2, -2, "beside", 0, 1, -1).is(0, "beside", 0, 0, -1).is(1, "beside", 0, 1, 0).is(70, "beside", 71, 0, 0)
+            .is(0, "beside", 71, 1, -1).is(0, "beside", 6, 0, -1).is(0, "beside", 5, 1, -1);
     }
 
     private static void often() {
@@ -572,6 +578,8 @@ final class EdgesOfPromises {
         }
         edge.is(6, "would", 0, 1, 1).is(6, "would", 5, 2, 1).is(0, "law", 3, 1);
         for (int what = 0; what < 3; what++) edge.is(want[0][what], "would", 3, 0, what).is(want[1][what], "would", 3, 1, what).is(want[1][what], "would", 0, 2, what);
+        // In each ENTRY one goes, the first and the last one counted.
+        promise(34, quote).text("string 1:act a,act a;").is(2, "would", 3, 0, 2).is(2, "would", 3, 1, 2).is(2, "would", 3, 2, 2).is(1, "would", 3, 2, 1);
         promise(34, quote).text(full()).is(72, "would", 3, 2, 0).is(72, "would", 3, 1, 1).is(0, "would", 3, 1, 2);
     }
 
@@ -581,7 +589,7 @@ final class EdgesOfPromises {
         String quote = "The TAPE (empty then) is a string LINE (without string, with ; at its end): it comes as the last STRING: its number.";
         Edge edge = promise(35, quote).adds(0, "0:act a;").is(0, "count", 8).adds(1, " \n999 :\nnot act b via x back y , form c ; \n").is(999, "string", 1, 0)
             .is(2, "string", 1, 1).is(1, "string", 1, 2).is(2, "count", 7).lines("a 0", "c, b y 999");
-        edge.faultyAdds(1, "^string 1:act a;").faultyAdds(1, "1:act a^").faultyAdds(1, "1:act a ^").faultyAdds(1, "1:act a;^;").faultyAdds(1, "1:act a; ^2:act b;")
+        edge.faultyAdds(1, "^string 1:act a;").faultyAdds(1, "1:act a^").faultyAdds(1, "1:act a ^").faultyAdds(1, "1^;").faultyAdds(1, "1:act a;^;").faultyAdds(1, "1:act a; ^2:act b;")
             .faultyAdds(1, "1:act a; ^string 2:act b;").faultyAdds(1, "1:act a;^law act near;");
         promise(35, quote).text("see z a;" + EdgesOfTerms.strings(0, 11)).adds(11, "11:act z;").is(0, "term", 11, 0, 2).is(12, "count", 0);
         promise(35, quote).adds(0, "5" + " ".repeat(1191) + ":act a; ").is(5, "string", 0, 0);
@@ -793,6 +801,7 @@ final class EdgesOfPromises {
         promise(50, quote).text(MERGED).bounds(0, 0, 3, -2, -2, "twins", 0).each("twins", 0, 0b0110, 0b0101, 0b0011, 0, -2);
         promise(50, quote).text(twelveAlike()).is(4094, "twins", 0).is(2047, "twins", 11).is(-2, "twins", 12);
         promise(50, quote).text("string 1:act a,act a;").is(0, "twins", 0);
+        promise(50, quote).text(full()).bounds(0, 0, 11, -2, -2, "twins", 0).each("twins", 0, 0, 0, 0, 0, 0, 0, 0, 0, 0, 0, 0, 0, -2);
         // By one ENTRY; not through a third STRING; not without one that leads.
         promise(50, quote).text("string 1:act a,act b;string 2:not act a,act b;string 3:act a,not act b;string 4:not act a,not act b;").each("twins", 0, 6, 1, 1, 0);
     }

@@ -82,6 +82,8 @@ final class EdgesOfTerms {
         terms(quote).faulty(1, "string ^:act a;");
         terms(quote).faulty(1, "string 1 ^act a;");
         terms(quote).faulty(1, "string 1 ^1:act a;");
+        terms(quote).faulty(1, "string 1^;");
+        terms(quote).faulty(1, "string 1^,");
         terms(quote).faulty(1, "string 1:^;");
         terms(quote).faulty(1, "string 1:^,act a;");
         terms(quote).faulty(1, "string 1:act a,^;");
@@ -251,6 +253,13 @@ final class EdgesOfTerms {
         terms(quote).faulty(1, "^" + "a".repeat(1200));
         terms(quote).faulty(1, "^" + "1".repeat(1200));
         terms(quote).faulty(1, "^" + "!".repeat(1200));
+        // No number and no byte stands for a word of the text's own, whatever its value.
+        for (String place : new String[] {"^@ act near;", "law ^@ near;", "law act ^@;", "string 1:^@ a;", "string 1:not ^@ a;", "string 1:act a ^@ b;"}) {
+            for (int value = 0; value < 16; value++) {
+                terms(quote).faulty(1, place.replace("@", String.valueOf(value)));
+                if (value != 10) terms(quote).faulty(1, place.replace('@', (char) value));
+            }
+        }
         // Which of the text's own words can stand where: at the beginning, for a ROLE, for a WAY.
         for (int key = 0; key < KEYS.length; key++) {
             if (key > 2) terms(quote).faulty(1, "^" + KEYS[key] + " a b;");
@@ -446,6 +455,10 @@ final class EdgesOfTerms {
         orderOf(quote, "string 1:not act b,act x;string 2:not act z,not act a,act x;", 1, 0);
         orderOf(quote, "string 1:not act ab,act x;string 2:not act a,act x;", 1, 0);
         orderOf(quote, "string 1:not act e,not act d,not act c,not act b,not act a,act x;string 2:not act d,not act c,not act b,not act a,act x;", 1, 0);
+        // A row ends where BELOW begins: what stands there is not of it.
+        orderOf(quote, "string 1:not act b,not act a,act x;string 2:not act a,act x,not act z;", 1, 0);
+        orderOf(quote, "string 1:not act z,not act a,act x;string 2:not act a,act x,not act b;", 1, 0);
+        orderOf(quote, "string 1:not act z,act x;string 2:act x,not act a;", 1, 0);
         // ABOVE ahead of BELOW.
         orderOf(quote, "string 1:not act a,act x;string 2:act x,not act z;", 1, 0);
         orderOf(quote, "string 1:not act b,act x;string 2:not act a,act x,not act z;", 1, 0);
