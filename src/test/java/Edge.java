@@ -100,6 +100,10 @@ final class Edge {
         for (Map.Entry<String, String> each : SECTIONS.entrySet()) QUOTED.put(each.getKey(), new boolean[each.getValue().length()]);
     }
 
+    static Edge use(String quote) {
+        return of("What it is", quote);
+    }
+
     static Edge terms(String quote) {
         return of("Terms", quote);
     }
@@ -120,7 +124,8 @@ final class Edge {
     /** Whether all that the document says of boundary cases has been quoted by some test. */
     static void needAllQuoted() {
         for (Map.Entry<String, String> each : SECTIONS.entrySet()) {
-            if (!each.getKey().equals("Terms") && !each.getKey().startsWith("Promise")) continue;
+            boolean told = List.of("What it is", "Terms").contains(each.getKey()) || each.getKey().startsWith("Promise");
+            if (!told) continue;
             Matcher mark = MARKS.matcher(each.getValue());
             while (mark.find()) {
                 if (QUOTED.get(each.getKey())[mark.start()]) continue;
@@ -164,6 +169,11 @@ final class Edge {
     Edge each(String name, int first, int... wants) {
         for (int i = 0; i < wants.length; i++) is(wants[i], name, first + i);
         return this;
+    }
+
+    /** How many calls the object is still good for. */
+    int left() {
+        return CALLS - used.calls;
     }
 
     /** Puts a text behind the TAPE. */

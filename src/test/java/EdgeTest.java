@@ -6,6 +6,7 @@ public final class EdgeTest {
         Edge.readDocument(Path.of("../shared/DOC.md"));
         for (boolean worn : new boolean[] {false, true}) {
             Edge.worn = worn;
+            EdgesOfUse.all();
             EdgesOfTerms.all();
             EdgesOfPromises.all();
         }

@@ -1,3 +1,4 @@
+import java.lang.reflect.Constructor;
 import java.lang.reflect.Field;
 import java.lang.reflect.Member;
 import java.lang.reflect.Method;
@@ -71,8 +72,13 @@ public final class RulesTest {
         }
         Set<String> got = new TreeSet<>();
         for (Method method : TurnedHeadings.class.getDeclaredMethods()) {
-            if (Modifier.isPublic(method.getModifiers())) got.add(shape(method));
-            else privateOne(method, names);
+            if (Modifier.isPublic(method.getModifiers())) {
+                got.add(shape(method));
+                need(method.getModifiers() == Modifier.PUBLIC, "a method of an object " + method.getName());
+                need(method.getExceptionTypes().length == 0, "throws nothing " + method.getName());
+            } else {
+                privateOne(method, names);
+            }
         }
         need(want.size() == 52, "52 methods in the document's face");
         need(got.equals(want), "the face: " + got);
@@ -81,9 +87,26 @@ public final class RulesTest {
             need(shown == field.getName().equals("NONE"), "fields are private but NONE: " + field.getName());
             if (!shown) need(Modifier.isPrivate(field.getModifiers()), "a private field " + field.getName());
         }
-        need(Modifier.isFinal(TurnedHeadings.class.getModifiers()), "a final class");
-        need(TurnedHeadings.class.getDeclaredConstructors().length == 1, "one constructor");
+        form(document);
         for (Class<?> inside : TurnedHeadings.class.getDeclaredClasses()) inner(inside, names);
+    }
+
+    /** The class, its constant and its constructor. */
+    private static void form(String document) {
+        int seen = Modifier.PUBLIC | Modifier.FINAL;
+        need(document.contains("public final class TurnedHeadings {"), "the class as the document tells it");
+        need(TurnedHeadings.class.getModifiers() == seen, "a public final class");
+        need(TurnedHeadings.class.getSuperclass() == Object.class, "no class above it");
+        need(TurnedHeadings.class.getInterfaces().length == 0, "no interface");
+        need(TurnedHeadings.class.getPackageName().isEmpty(), "no package");
+        need(TurnedHeadings.class.getClasses().length == 0, "no public class inside");
+        need(document.contains("    public static final int NONE = -1;"), "the constant as the document tells it");
+        Field[] shown = TurnedHeadings.class.getFields();
+        need(shown.length == 1 && shown[0].getModifiers() == (seen | Modifier.STATIC) && shown[0].getType() == int.class, "NONE's form");
+        need(TurnedHeadings.NONE == -1, "NONE is -1");
+        need(document.contains("    public TurnedHeadings();"), "the constructor as the document tells it");
+        Constructor<?>[] made = TurnedHeadings.class.getDeclaredConstructors();
+        need(made.length == 1 && made[0].getModifiers() == Modifier.PUBLIC && made[0].getParameterCount() == 0, "one constructor");
     }
 
     private static void privateOne(Member method, Set<String> names) {
@@ -93,6 +116,7 @@ public final class RulesTest {
 
     private static void inner(Class<?> inside, Set<String> names) {
         need(Modifier.isStatic(inside.getModifiers()), "a static class " + inside.getName());
+        need(!Modifier.isProtected(inside.getModifiers()), "private or package-visible " + inside.getName());
         int fields = 0;
         for (Field field : inside.getDeclaredFields()) {
             if (!Modifier.isStatic(field.getModifiers())) fields++;
